@@ -34,10 +34,10 @@ public final class WayWeights {
     private final int[][] loads = new int[TABLES][PAIRS];
     private final Routes routes = new Routes();
     private final Flow flow = new Flow();
-    private final Survey survey = new Survey(net, loads);
     private final Peak peak = new Peak();
+    private final Survey survey = new Survey(net, loads, routes, flow);
     private final Seeker seeker = new Seeker(net, survey);
-    private final News news = new News(net);
+    private final News news = new News(net, routes);
     private final int[] grown = new int[PAIRS];
 
     public WayWeights() {
@@ -708,30 +708,33 @@ public final class WayWeights {
         final Net net;
         final int[][] loads;
         boolean guarded;
-        private final Routes routes = new Routes();
-        private final Flow flow = new Flow();
+        private final Routes routes;
+        private final Flow flow;
         private final Peak one = new Peak();
 
-        Survey(Net net, int[][] loads) {
+        Survey(Net net, int[][] loads, Routes routes, Flow flow) {
             this.net = net;
             this.loads = loads;
+            this.routes = routes;
+            this.flow = flow;
         }
 
         void findWorst(int[] weight, Peak worst) {
             worst.clear();
             int targets = targetsOfLoads();
-            for (int trial = 0; trial < trials(); trial++) {
-                addTrial(weight, trial, targets, worst);
+            int nets = countNets();
+            for (int i = 0; i < nets; i++) {
+                addNet(weight, i, targets, worst);
             }
         }
 
-        /** How many nets there are to look at: the one as it is is the first. */
-        int trials() {
+        /** How many nets there are to look at: first the one as it is, then those with a line more away. */
+        int countNets() {
             return guarded ? 1 + net.lines : 1;
         }
 
-        void addTrial(int[] weight, int trial, int targets, Peak worst) {
-            int moreAway = trial - 1;
+        void addNet(int[] weight, int i, int targets, Peak worst) {
+            int moreAway = i - 1;
             if (moreAway != NO_LINE && bit(net.away, moreAway) == 1) {
                 return;
             }
@@ -743,7 +746,7 @@ public final class WayWeights {
                 one.table = table;
                 one.moreAway = moreAway;
                 int compared = one.compareWith(worst);
-                // Trials of a table stand ahead of the next table's, though they are gone through by nets.
+                // All nets of a table stand ahead of the next table's, though tables are gone through net by net.
                 if (compared > 0 || compared == 0 && table < worst.table) {
                     worst.copy(one);
                 }
@@ -776,6 +779,7 @@ public final class WayWeights {
         private int count;
         private final int[] free = new int[MOST_SOUGHT];
         private int targets;
+        /** The net that ruled out the latest weights: most often it rules out the next ones too. */
         private int hardest;
         private final int[] trial = new int[MOST_LINES];
         private final Peak peak = new Peak();
@@ -850,12 +854,10 @@ public final class WayWeights {
         /** Whether the trial weights are better than the best; then the peak is theirs. */
         private boolean isBetter(int others) {
             peak.clear();
-            int trials = survey.trials();
-            // What ruled out the last weights most often rules out these, so it is tried first.
-            int start = hardest < trials ? hardest : 0;
-            for (int i = 0; i < trials; i++) {
-                int at = start + i < trials ? start + i : start + i - trials;
-                survey.addTrial(trial, at, targets, peak);
+            int nets = survey.countNets();
+            for (int i = 0; i < nets; i++) {
+                int at = hardest + i < nets ? hardest + i : hardest + i - nets;
+                survey.addNet(trial, at, targets, peak);
                 int compared = peak.compareWith(best);
                 if (compared > 0 || compared == 0 && others >= changes) {
                     hardest = at;
@@ -869,15 +871,16 @@ public final class WayWeights {
     /** Changes of one line's weight, of which boxes come to know one by one. */
     private static final class News {
         final Net net;
-        private final Routes routes = new Routes();
+        private final Routes routes;
         private final int[] trial = new int[MOST_LINES];
         /** By weight, target and box: the boxes to which its NEXT lines go, as bits. */
         private final int[] steps = new int[(MOST_WEIGHT + 1) * PAIRS];
         /** By weight: how many changes there are from it to the goal, or NONE. */
         private final int[] toGoal = new int[MOST_WEIGHT + 1];
 
-        News(Net net) {
+        News(Net net, Routes routes) {
             this.net = net;
+            this.routes = routes;
         }
 
         int firstRing(int line, int weight) {

@@ -2,7 +2,7 @@ import java.util.Random;
 
 /** Runs of chance calls, the same ones each time, of which each answer is held against the reference. */
 public final class RandomRunsTest {
-    private static final int RUNS = Integer.getInteger("runs", 160);
+    private static final int RUNS = Integer.getInteger("runs", 400);
     private static final int FIRST_SEED = Integer.getInteger("seed", 1);
     private static final int CALLS = 512;
 
@@ -16,6 +16,7 @@ public final class RandomRunsTest {
     /** The most that weights are in this run: few values make many like ways. */
     private final int span;
     private int seeks;
+    private int calls;
 
     private RandomRunsTest(Due due, int run) {
         this.due = due;
@@ -44,12 +45,14 @@ public final class RandomRunsTest {
                 load(random.nextInt(3), box(), box(), random.nextInt(51));
             }
         }
-        for (int call = 60; call < CALLS && due.isClean(); call++) {
+        // A seek and what it found are 13 calls.
+        while (calls < CALLS - 13 && due.isClean()) {
             step();
         }
     }
 
     private void check(String call, long got, long want) {
+        calls++;
         due.is("run " + run + ": " + call, got, want);
     }
 
@@ -116,10 +119,8 @@ public final class RandomRunsTest {
     }
 
     private void tell(int kind) {
-        if (kind < 2) {
-            if (random.nextInt(8) == 0) {
-                renew(odd(2 + random.nextInt(5)));
-            }
+        if (kind < 2 && random.nextInt(8) == 0) {
+            renew(odd(2 + random.nextInt(5)));
         } else if (kind < 6) {
             join(box(), box(), odd(1 + random.nextInt(random.nextBoolean() ? 10 : 100)), weight());
         } else if (kind < 9) {
