@@ -153,6 +153,13 @@ public final class BearingTest {
         x.load(2, 0, 1, 0);
         x.load(2, 2, 1, 0);
         isAll(x, 2, 15, 2, -6);
+        WayWeights fresh = new WayWeights();
+        fresh.line(0, 1, 4, 1);
+        fresh.line(0, 1, 4, 1);
+        fresh.load(1, 0, 1, 1);
+        isAll(fresh, 1, 8, 1, -6);
+        fresh.guard(true);
+        isAll(fresh, 1, 4, 1, 0);
     }
 
     private static void isWorst(WayWeights x, int table, long... wanted) {
