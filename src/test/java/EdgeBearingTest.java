@@ -25,6 +25,8 @@ public final class EdgeBearingTest {
         allIsTheFirstTable();
         allIsAsItIsFirst();
         allIsTheFirstLineAway();
+        allWithTheLastOfTenAway();
+        allOfALoadOfOne();
         allOfATableAheadOfTheNext();
         allWithTheOnlyLineAway();
         allWithoutGuard();
@@ -307,6 +309,30 @@ public final class EdgeBearingTest {
         last.load(0, 1, 0, 13);
         last.load(0, 1, 2, 2);
         isAll("the other way, lines 0 and 2", last, 3, 2, 0, 0);
+    }
+
+    private static void allWithTheLastOfTenAway() {
+        WayWeights x = new WayWeights();
+        x.boxes(3);
+        for (int i = 0; i < 8; i++) {
+            x.line(1, 2, 100, 1);
+        }
+        x.line(0, 1, 1, 2);
+        x.line(0, 1, 10, 1);
+        x.load(2, 0, 1, 10);
+        x.guard(true);
+        isAll("the last of ten", x, 10, 1, 2, 9);
+        x.weigh(8, 1);
+        x.weigh(9, 2);
+        isAll("the last but one is gone by", x, 10, 1, 2, -6);
+    }
+
+    private static void allOfALoadOfOne() {
+        WayWeights x = sideBySide(2, 100);
+        x.load(2, 1, 0, 1);
+        isAll("a load of 1", x, 1, 200, 2, -6);
+        x.guard(true);
+        isAll("a load of 1, guarded", x, 1, 100, 2, 0);
     }
 
     private static void allOfATableAheadOfTheNext() {

@@ -10,6 +10,8 @@ public final class EdgeNewsTest {
         noRingOfTwoBoxes();
         noRingWithoutWayRound();
         ringOfTwoBoxes();
+        ringOverTheFirstLine();
+        ringOfTheFirstBox();
         ringByLikeWays();
         ringIsForTheLeast();
         ringIsTheSameBothWays();
@@ -93,6 +95,28 @@ public final class EdgeNewsTest {
         due.is("2 goes by 1 and straight", x.ring(0, 20), 0);
         due.is("1 goes by 2 and straight", x.ring(0, 3), 0);
         due.is("1 goes straight", x.ring(0, 2), -6);
+    }
+
+    /** The RING is on line 0, and it is line 1 that changes. */
+    private static void ringOverTheFirstLine() {
+        WayWeights x = new WayWeights();
+        x.boxes(3);
+        x.line(1, 2, 1, 2);
+        x.line(0, 1, 1, 2);
+        x.line(0, 2, 1, 9);
+        due.is("over line 0", x.ring(1, 20), 0);
+        due.is("over line 0: between", x.between(1, 20), 2);
+    }
+
+    /** The RING is of the BOXES 0 and 1, for the last one. */
+    private static void ringOfTheFirstBox() {
+        WayWeights x = new WayWeights();
+        x.boxes(3);
+        x.line(2, 1, 1, 2);
+        x.line(1, 0, 1, 2);
+        x.line(2, 0, 1, 9);
+        due.is("of box 0", x.ring(0, 20), 2);
+        due.is("of box 0: between", x.between(0, 20), 2);
     }
 
     /** One of several like NEXT LINES is enough for a RING. */

@@ -23,6 +23,9 @@ public final class EdgeSeekTest {
         firstByWeightsThen();
         lostLoadsCountForNothing();
         guardedByALineAway();
+        guardedByEachLineAway();
+        guardedNoMore();
+        loadOfOne();
         worstOverAllTables();
         weightsStay();
         soughtUnknown();
@@ -193,6 +196,9 @@ public final class EdgeSeekTest {
         x.mark(4, 0, true);
         due.is("four", x.seek(1, 10), 4);
         isFound("four", x, new int[] {1, 1, 1, 1, 1}, 1, 5);
+        WayWeights last = sideBySide(7, 7, 1);
+        due.is("the last can only stay", last.seek(1, 1), 1);
+        isFound("the last can only stay", last, new int[] {1, 7, 1}, 1, 2);
         WayWeights one = sideBySide(5);
         due.is("one, that helps nothing", one.seek(2, 10), 0);
         isFound("one", one, new int[] {5}, 1, 1);
@@ -252,6 +258,44 @@ public final class EdgeSeekTest {
         y.guard(true);
         due.is("ten lines, guarded", y.seek(1, 10), 4);
         isFound("ten lines, guarded", y, new int[] {1, 1, 1, 1, 1, 5, 5, 5, 5, 1}, 1, 5);
+    }
+
+    /** WEIGHTS that are better with one LINE away are worse with another one: each counts. */
+    private static void guardedByEachLineAway() {
+        for (int turn = 0; turn < 3; turn++) {
+            WayWeights x = new WayWeights();
+            x.boxes(2);
+            int[] rooms = {1, 10, 10};
+            for (int line = 0; line < 3; line++) {
+                x.line(0, 1, rooms[(line + turn) % 3], 3);
+            }
+            x.load(0, 0, 1, 10);
+            x.guard(true);
+            // The narrow line is left out for as long as one of the others is there.
+            int narrow = (3 - turn) % 3;
+            due.is("narrow line " + narrow, x.seek(2, 2), 2);
+            int[] wanted = {1, 1, 1};
+            wanted[narrow] = 3;
+            isFound("narrow line " + narrow, x, wanted, 1, 1);
+        }
+    }
+
+    private static void guardedNoMore() {
+        WayWeights x = sideBySide(5, 5, 5, 5, 5, 5, 5, 5, 5, 1);
+        x.guard(true);
+        due.is("guarded", x.seek(1, 10), 5);
+        isFound("guarded", x, new int[] {1, 1, 1, 1, 1, 5, 5, 5, 5, 1}, 1, 5);
+        x.guard(false);
+        due.is("guarded no more", x.seek(1, 10), 5);
+        isFound("guarded no more", x, new int[] {1, 1, 1, 1, 1, 5, 5, 5, 5, 1}, 1, 6);
+    }
+
+    private static void loadOfOne() {
+        WayWeights x = sideBySide(1, 5);
+        x.load(0, 0, 1, 0);
+        x.load(1, 1, 0, 1);
+        due.is("a load of 1", x.seek(1, 10), 1);
+        isFound("a load of 1", x, new int[] {1, 1}, 1, 20);
     }
 
     private static void worstOverAllTables() {
